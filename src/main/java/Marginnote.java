@@ -834,12 +834,15 @@ public final class Marginnote {
 
         Paper(Book book) {
             this.book = book;
-            clear();
+            for (int block = 0; block < MOST_BLOCKS; block++) {
+                aboves[block] = NO_BLOCK;
+            }
         }
 
+        // What belongs to acts that were not made yet is as it was in a new paper.
         private void clear() {
             rowSize = 0;
-            for (int act = 0; act < MOST_ACTS; act++) {
+            for (int act = 0; act < book.made && act < MOST_ACTS; act++) {
                 states[act] = ABSENT;
                 breaks[act] = false;
                 removed[act] = false;
@@ -847,7 +850,7 @@ public final class Marginnote {
                 asked[act] = false;
                 undone[act] = false;
             }
-            for (int block = 0; block < MOST_BLOCKS; block++) {
+            for (int block = 0; block <= book.made && block < MOST_BLOCKS; block++) {
                 kinds[block] = 0;
                 aboves[block] = NO_BLOCK;
                 for (int site = 0; site < SITES; site++) {

@@ -353,6 +353,24 @@ public final class DocumentsTest {
         room.erase(0);
         Check.due(2, room.graves(0));
         Check.due(1, room.buried(0));
+        // What is VOID is buried, too; what is only proposed is seen, so it is not.
+        Marginnote kinds = Check.roomWith("a");
+        kinds.propose(0, true);
+        kinds.type(0, 'b');
+        kinds.type(0, 'c');
+        kinds.undo(0);
+        tellAll(kinds, 0);
+        kinds.save(0);
+        for (int site = 1; site < 4; site++) {
+            kinds.save(site);
+            Check.pass(kinds, site, 0);
+        }
+        Check.due(1, kinds.graves(0));
+        Check.due(1, kinds.buried(0));
+        // A grave that was seen yet in what all have is not buried, and one accepted since neither.
+        kinds.decide(0, 1, false);
+        Check.due(2, kinds.graves(0));
+        Check.due(1, kinds.buried(0));
         // A site that did not save it itself does not count itself.
         Marginnote unsafe = Check.roomWith("a");
         unsafe.erase(0);

@@ -177,6 +177,11 @@ public final class MessagesTest {
         Check.pass(room, 1, 0);
         Check.due(c, room.element(0, 2));
         Check.due(0, room.tail(0));
+        room.moveTo(0, 3);
+        room.crash(0, 1);
+        Check.due(0, room.cursor(0));
+        Check.pass(room, 1, 0);
+        Check.due(0, room.cursor(0));
         // An element that stays does not move them, though more is lost.
         room.save(0);
         room.moveTo(0, 3);
@@ -261,6 +266,24 @@ public final class MessagesTest {
         room.propose(0, true);
         room.type(0, 'y');
         Check.due(0, room.bringBack(0, 0));
+        // What is proposed in the version does not show there.
+        Marginnote shows = new Marginnote();
+        shows.propose(0, true);
+        shows.type(0, 'a');
+        shows.name(0);
+        shows.decide(0, 0, true);
+        Check.due(1, shows.bringBack(0, 0));
+        Check.due(3002, shows.act(2));
+        // What showed in the version and is only proposed now does not show here.
+        Marginnote late = new Marginnote();
+        late.type(1, 'a');
+        late.name(1);
+        late.allow(0, 1, Marginnote.SUGGEST);
+        Check.pass(late, 0, 1);
+        Check.due("1", Check.proposals(late, 1));
+        Check.due(1, late.bringBack(1, 0));
+        Check.due(2103, late.act(2));
+        Check.due("1", Check.proposals(late, 1));
         // Too many acts: none is made.
         Marginnote full = Check.roomWith("abcd");
         full.name(1);

@@ -21,6 +21,7 @@ public final class WritingTest {
         undo();
         redo();
         noMoreThanAllActs();
+        theLastBlock();
         Check.end();
     }
 
@@ -112,6 +113,11 @@ public final class WritingTest {
         room.split(1);
         Check.due("000110", Check.proposals(room, 1));
         Check.due(2, room.blocks(1));
+        // It is the cursor's block that counts, not the tail's.
+        room.moveTo(1, 4);
+        room.extend(1, 1);
+        Check.badState(() -> room.type(1, 'y'));
+        Check.badState(() -> room.split(1));
         // The first block is level READ for the beginning too, even for one that proposes.
         room.moveTo(1, 0);
         room.propose(1, true);
@@ -467,6 +473,11 @@ public final class WritingTest {
         Check.outOfBounds(() -> room.allow(0, -1, 0));
         Check.badArgument(() -> room.allow(0, 1, 3));
         Check.badArgument(() -> room.allow(0, 1, -1));
+        // It can be the very first act.
+        Marginnote first = new Marginnote();
+        Check.due(0, first.allow(0, 1, Marginnote.READ));
+        Check.pass(first, 0, 1);
+        Check.due(Marginnote.READ, first.level(1, 0));
         // An ALLOW can't be undone.
         Check.due(2, room.undo(0));
     }
@@ -581,7 +592,45 @@ public final class WritingTest {
         Check.badState(() -> room.redo(0));
         Check.due(160, room.acts());
         Check.due(2, room.cursor(0));
+        Marginnote redo = Check.roomWith("a");
+        for (int i = 0; i < 158; i++) {
+            redo.setKind(0, 0, 0);
+        }
+        redo.undo(0);
+        Check.badState(() -> redo.redo(0));
+        Check.due(160, redo.acts());
+        Check.due(true, redo.isUndone(0, 158));
         // Bringing back what needs no act is fine.
         Check.due(0, room.bringBack(0, 0));
+    }
+
+    private static void theLastBlock() {
+        Marginnote room = new Marginnote();
+        for (int i = 0; i < 159; i++) {
+            room.split(1);
+        }
+        Check.due(159, room.split(1));
+        Check.due(161, room.blocks(1));
+        Check.due(Marginnote.WRITE, room.level(1, 160));
+        Check.due(0, room.kind(1, 160));
+        Check.due(0, room.depth(1, 160));
+        Check.outOfBounds(() -> room.level(1, 161));
+        Check.badState(() -> room.setKind(1, 160, 1));
+        Check.badState(() -> room.nest(1, 160, 159));
+        Check.badState(() -> room.type(1, 'a'));
+        Check.due(159, room.elementAnew(1, 159));
+        Check.due(160, Check.pass(room, 1, 0));
+        Check.badState(() -> room.allow(160, 1, 0));
+        Check.outOfBounds(() -> room.allow(161, 1, 0));
+        // As long as there is room the last blocks are nested as any others.
+        Marginnote deep = new Marginnote();
+        for (int i = 0; i < 80; i++) {
+            deep.split(0);
+        }
+        for (int block = 80; block > 0; block--) {
+            deep.nest(0, block, block - 1);
+        }
+        Check.due(80, deep.depth(0, 80));
+        Check.due(160, deep.acts());
     }
 }
