@@ -257,7 +257,7 @@ public final class MessagesTest {
         Check.due(6, room.undo(0));
         Check.due("ab", Check.text(room, 0));
         Check.due(1, room.bringBack(0, 0));
-        Check.due(1 + 2, room.cursor(0));
+        Check.due(3, room.cursor(0));
         Check.outOfBounds(() -> room.bringBack(-1, 0));
         Check.outOfBounds(() -> room.bringBack(4, 0));
         Check.outOfBounds(() -> room.bringBack(0, 1));

@@ -133,7 +133,7 @@ public final class WritingTest {
         Check.due(2, room.cursor(0));
         Check.due(2, room.tail(0));
         Check.due(2, room.blocks(0));
-        Check.due(3001 + 1000, room.act(3));
+        Check.due(4001, room.act(3));
         room.propose(0, true);
         room.split(0);
         Check.due("a//bc", Check.text(room, 0));
@@ -163,7 +163,7 @@ public final class WritingTest {
         Check.due("ax", Check.text(room, 0));
         Check.due(2, room.cursor(0));
         Check.due(2, room.tail(0));
-        Check.due(0, room.undo(0) - 11);
+        Check.due(11, room.undo(0));
         Check.due("axf", Check.text(room, 0));
         Check.due(2, room.tail(0));
         // In the order of the row: the first act is that of the first element.
@@ -246,7 +246,7 @@ public final class WritingTest {
         room.redo(0);
         Check.due("axc", Check.text(room, 0));
         Check.select(room, 0, 1, 3);
-        Check.due(1, room.moveTo(0, 2) - 2);
+        Check.due(3, room.moveTo(0, 2));
         Check.due(2, room.tail(0));
     }
 
