@@ -61,7 +61,7 @@ final class Check {
         wrong++;
         String where = "?";
         for (StackTraceElement frame : new Throwable().getStackTrace()) {
-            if (!frame.getClassName().equals("Check")) {
+            if (!frame.getClassName().equals("Check") && !frame.getClassName().equals("Story")) {
                 where = frame.getFileName() + ":" + frame.getLineNumber();
                 break;
             }
