@@ -236,7 +236,7 @@ public final class Marginnote {
     public int save(int site) throws IndexOutOfBoundsException {
         Site saver = siteAt(site);
         int unsafe = saver.unsafeCount();
-        saver.known[saver.number] = saver.held.size;
+        saver.makeAllSafe();
         return unsafe;
     }
 
@@ -538,7 +538,7 @@ public final class Marginnote {
 
     private int make(Site writer, int kind, int first, int second, int value, boolean flag) {
         int count = writer.clock + 1;
-        int act = book.add(writer.number, count, kind, first, second, value, flag);
+        int act = book.enter(writer.number, count, kind, first, second, value, flag);
         writer.take(act, count);
         if (kind == UNDO || kind == REDO) {
             writer.fresh = false;
@@ -584,7 +584,7 @@ public final class Marginnote {
             owners[act] = 0;
         }
         for (int owner = 0; owner < SITES; owner++) {
-            siteAt(owner).countFirst(reader.known[owner], owners);
+            siteAt(owner).countFirst(reader.knownOf(owner), owners);
         }
         scratchSet.clear();
         for (int act = 0; act < owners.length; act++) {
@@ -611,7 +611,7 @@ public final class Marginnote {
         private int made;
         private int comments;
 
-        int add(int writer, int count, int kind, int first, int second, int value, boolean flag) {
+        int enter(int writer, int count, int kind, int first, int second, int value, boolean flag) {
             if (made >= MOST_ACTS) {
                 return NONE;
             }
@@ -641,10 +641,10 @@ public final class Marginnote {
         }
 
         private boolean comesBefore(int act, int other) {
-            if (counts[act] != counts[other]) {
-                return counts[act] < counts[other];
+            if (countOf(act) != countOf(other)) {
+                return countOf(act) < countOf(other);
             }
-            return writers[act] < writers[other];
+            return siteOf(act) < siteOf(other);
         }
 
         int inOrder(int place) {
@@ -800,8 +800,18 @@ public final class Marginnote {
             }
         }
 
+        int knownOf(int site) {
+            return site >= 0 && site < known.length ? known[site] : 0;
+        }
+
         int unsafeCount() {
-            return held.size - known[number];
+            return held.size - knownOf(number);
+        }
+
+        void makeAllSafe() {
+            if (number >= 0 && number < known.length) {
+                known[number] = held.size;
+            }
         }
 
         void countFirst(int many, int[] counts) {
@@ -927,7 +937,7 @@ public final class Marginnote {
         private void putElement(int act) {
             int after = book.firstOf(act);
             int place = placeOf(after) + 1;
-            if (!isNumber(act) || rowSize >= row.length || place > rowSize) {
+            if (!isNumber(act) || rowSize >= row.length || place < 0 || place > rowSize) {
                 return;
             }
             int level = levelIn(book.siteOf(act), blockOf(after));
@@ -939,8 +949,8 @@ public final class Marginnote {
             } else {
                 states[act] = PLAIN;
             }
-            int ahead = place > 0 ? bits[row[place - 1]] : 0;
-            int behind = place < rowSize ? bits[row[place]] : 0;
+            int ahead = bitsOf(inRow(place - 1));
+            int behind = bitsOf(inRow(place));
             // BOLD grows behind its last element; all others need both neighbours.
             bits[act] = ahead & (behind | BOLD_BIT);
             System.arraycopy(row, place, row, place + 1, rowSize - place);
@@ -952,7 +962,7 @@ public final class Marginnote {
             int element = book.firstOf(act);
             int writer = book.siteOf(act);
             int level = levelIn(writer, blockOf(element));
-            if (!isNumber(element) || level == READ) {
+            if (!isNumber(element) || !isNumber(act) || level == READ) {
                 return;
             }
             boolean takesBack = states[element] == PROPOSED && book.siteOf(element) == writer;
@@ -978,14 +988,14 @@ public final class Marginnote {
             boolean inside = false;
             int block = NONE;
             for (int place = 0; place < rowSize; place++) {
-                int element = row[place];
+                int element = inRow(place);
                 if (isShownBreak(element)) {
                     block = element;
                 }
                 if (element == first) {
                     inside = true;
                 }
-                if (inside && (!heedsLevel || levelIn(writer, block) == WRITE)) {
+                if (inside && isNumber(element) && (!heedsLevel || levelIn(writer, block) == WRITE)) {
                     bits[element] = on ? bits[element] | bit : bits[element] & ~bit;
                 }
                 if (element == last) {
@@ -1082,7 +1092,7 @@ public final class Marginnote {
         int proposalsFor(int element) {
             boolean isProposed = isNumber(element) && states[element] == PROPOSED;
             boolean removalAsked = false;
-            for (int act = 0; act < book.made; act++) {
+            for (int act = 0; act < book.made && act < MOST_ACTS; act++) {
                 if (asked[act] && book.firstOf(act) == element) {
                     removalAsked = true;
                 }
@@ -1111,13 +1121,21 @@ public final class Marginnote {
             return element >= 0 && element < MOST_ACTS && breaks[element] && states[element] == PLAIN && !removed[element];
         }
 
+        private int bitsOf(int element) {
+            return isNumber(element) ? bits[element] : 0;
+        }
+
         boolean hasBit(int element, int bit) {
-            return isNumber(element) && (bits[element] & bit) != 0;
+            return (bitsOf(element) & bit) != 0;
+        }
+
+        private int inRow(int place) {
+            return place >= 0 && place < rowSize && place < row.length ? row[place] : NONE;
         }
 
         private int placeOf(int element) {
             for (int place = 0; place < rowSize; place++) {
-                if (row[place] == element) {
+                if (inRow(place) == element) {
                     return place;
                 }
             }
@@ -1127,9 +1145,9 @@ public final class Marginnote {
         int seenAt(int wanted) {
             int ahead = 0;
             for (int place = 0; place < rowSize; place++) {
-                if (isSeen(row[place])) {
+                if (isSeen(inRow(place))) {
                     if (ahead == wanted) {
-                        return row[place];
+                        return inRow(place);
                     }
                     ahead++;
                 }
@@ -1140,10 +1158,10 @@ public final class Marginnote {
         int seenThrough(int element) {
             int count = 0;
             for (int place = 0; place < rowSize; place++) {
-                if (isSeen(row[place])) {
+                if (isSeen(inRow(place))) {
                     count++;
                 }
-                if (row[place] == element) {
+                if (inRow(place) == element) {
                     return count;
                 }
             }
@@ -1154,9 +1172,9 @@ public final class Marginnote {
             int count = 0;
             int ahead = 0;
             for (int place = 0; place < rowSize; place++) {
-                if (isSeen(row[place])) {
+                if (isSeen(inRow(place))) {
                     if (ahead >= from && ahead < to && count < target.length) {
-                        target[count] = row[place];
+                        target[count] = inRow(place);
                         count++;
                     }
                     ahead++;
@@ -1168,7 +1186,7 @@ public final class Marginnote {
         int pickDifferent(Paper other, int[] target) {
             int count = 0;
             for (int place = 0; place < rowSize; place++) {
-                int element = row[place];
+                int element = inRow(place);
                 if (isShown(element) != other.isShown(element) && count < target.length) {
                     target[count] = element;
                     count++;
@@ -1180,7 +1198,7 @@ public final class Marginnote {
         int countSeen() {
             int count = 0;
             for (int place = 0; place < rowSize; place++) {
-                if (isSeen(row[place])) {
+                if (isSeen(inRow(place))) {
                     count++;
                 }
             }
@@ -1190,7 +1208,7 @@ public final class Marginnote {
         int countShown() {
             int count = 0;
             for (int place = 0; place < rowSize; place++) {
-                if (isShown(row[place])) {
+                if (isShown(inRow(place))) {
                     count++;
                 }
             }
@@ -1204,7 +1222,7 @@ public final class Marginnote {
         int countSeenWith(int bit) {
             int count = 0;
             for (int place = 0; place < rowSize; place++) {
-                if (isSeen(row[place]) && hasBit(row[place], bit)) {
+                if (isSeen(inRow(place)) && hasBit(inRow(place), bit)) {
                     count++;
                 }
             }
@@ -1220,10 +1238,10 @@ public final class Marginnote {
         private int blockOf(int element) {
             int block = NONE;
             for (int place = 0; place < rowSize; place++) {
-                if (isShownBreak(row[place])) {
-                    block = row[place];
+                if (isShownBreak(inRow(place))) {
+                    block = inRow(place);
                 }
-                if (row[place] == element) {
+                if (inRow(place) == element) {
                     return block;
                 }
             }
@@ -1237,7 +1255,7 @@ public final class Marginnote {
         int countBlocks() {
             int count = 1;
             for (int place = 0; place < rowSize; place++) {
-                if (isShownBreak(row[place])) {
+                if (isShownBreak(inRow(place))) {
                     count++;
                 }
             }
@@ -1250,9 +1268,9 @@ public final class Marginnote {
             }
             int ahead = 1;
             for (int place = 0; place < rowSize; place++) {
-                if (isShownBreak(row[place])) {
+                if (isShownBreak(inRow(place))) {
                     if (ahead == wanted) {
-                        return row[place];
+                        return inRow(place);
                     }
                     ahead++;
                 }

@@ -6,7 +6,9 @@ import java.lang.reflect.Modifier;
 import java.nio.charset.StandardCharsets;
 import java.nio.file.Files;
 import java.nio.file.Path;
+import java.util.Map;
 import java.util.Set;
+import java.util.TreeMap;
 import java.util.TreeSet;
 import java.util.regex.Matcher;
 import java.util.regex.Pattern;
@@ -70,6 +72,7 @@ public final class LanguageTest {
         tokens(source);
         throwsOnlyTheNamedOnes(source);
         lengthsOfMethods(source);
+        depthsOfCalls(source);
         Check.end();
     }
 
@@ -164,6 +167,44 @@ public final class LanguageTest {
             Check.due(true, form.matcher(all.group()).matches());
         }
         Check.due(true, count > 10);
+    }
+
+    /** Calls that are no recursion go at most eight deep, and there is none that is; methods are told by their names alone. */
+    private static void depthsOfCalls(String source) {
+        Map<String, Set<String>> calls = new TreeMap<>();
+        String name = "";
+        for (String text : source.replaceAll("//[^\n]*", "").split("\n")) {
+            Matcher head = Pattern.compile("^ {4,8}(?! )[^=;]*?(\\w+)\\([^=;]*\\{$").matcher(text);
+            boolean isHead = head.matches() && !text.contains(" class ") && !text.trim().matches("(if|for|while|switch|}) .*");
+            if (isHead) {
+                name = head.group(1);
+                calls.putIfAbsent(name, new TreeSet<>());
+            } else if (!name.isEmpty()) {
+                Matcher call = Pattern.compile("(\\w+)\\(").matcher(text);
+                while (call.find()) {
+                    calls.get(name).add(call.group(1));
+                }
+            }
+        }
+        Check.due(true, calls.size() > 100);
+        for (String first : calls.keySet()) {
+            if (depth(first, calls, 0) > 8) {
+                Check.fail(first + " leads to calls that go too deep");
+            }
+        }
+    }
+
+    private static int depth(String name, Map<String, Set<String>> calls, int above) {
+        int deepest = above + 1;
+        if (above > 8) {
+            return deepest;
+        }
+        for (String next : calls.get(name)) {
+            if (calls.containsKey(next)) {
+                deepest = Math.max(deepest, depth(next, calls, above + 1));
+            }
+        }
+        return deepest;
     }
 
     /** Methods begin at one or two levels of indenting, and end with a brace at the same level. */

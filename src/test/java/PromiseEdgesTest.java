@@ -240,6 +240,9 @@ public final class PromiseEdgesTest {
         Story.of(sentence + ": what is PROPOSED is seen").does("propose 0 on; write 0 ab; " + ROUND).says("buried 0", 0).says("graves 0", 0);
         Story.of(sentence + ": what is PROPOSED and removed").does("propose 0 on; write 0 ab; erase 0; " + ROUND).says("buried 0", 1).says("graves 0", 1);
         Story.of(sentence + ": it is none in the site's document any more").does(room + ROUND + "undo 0").says("graves 0", 0).says("buried 0", 0).does("redo 0").says("buried 0", 1);
+        // a is VOID where the ALLOW is known, but PLAIN in the document of what all four are known to have: a alone.
+        Story.of(sentence + ": in that of all acts of which it knows it is none").does("allow 0 1 READ; type 1 a; pass 1 0; pass 1 2; pass 1 3; save 0; save 1; save 2; save 3; pass 2 1; pass 3 1; pass 0 1")
+            .says("graves 1", 1).says("buried 1", 0).does("pass 0 2; pass 0 3; save 1; save 2; save 3; pass 1 0; pass 2 0; pass 3 0").says("buried 0", 1).says("buried 1", 0).says("buried 0", 1);
         Story.of(sentence + ": a further one is known here alone").does(room + ROUND + "erase 0").says("graves 0", 2).says("buried 0", 1).does(ROUND).says("buried 0", 2);
     }
 

@@ -109,6 +109,11 @@ public final class RefusalsTest {
             Story.of(sentence + ": a break's own block").does(room + "moveTo 1 " + place).refuses(Story.STATE, call);
             Story.of(sentence + ": SUGGEST is enough").does(room + "moveTo 2 " + place).says(other, 8);
         }
+        String ahead = "write 0 /a; allow 1 1 READ; pass 0 1; moveTo 1 ";
+        Story.of(sentence + ": a break at the very beginning").does(ahead + 0).says(call, 3);
+        for (int place : new int[] {1, 2}) {
+            Story.of(sentence + ": a break at the very beginning").does(ahead + place).refuses(Story.STATE, call);
+        }
         Story.of(sentence + ", also as a proposal").does(room + "moveTo 1 4; propose 1 on").refuses(Story.STATE, call);
         Story.of(sentence + ", not the tail's").does(room + "select 1 1 4").refuses(Story.STATE, call);
         Story.of(sentence + ", not the tail's").does(room + "select 1 4 1").says(call, 8);
@@ -349,6 +354,7 @@ public final class RefusalsTest {
             .says("bringBack 0 1", 1).says("bringBack 0 0", 1);
         String lacks = "bringBack: IllegalStateException if the site does not have all acts of the version";
         Story.of(lacks + ": it has none").does("write 0 ab; name 0").refuses(Story.STATE, "bringBack 1 0").does("pass 0 1").says("bringBack 1 0", 0);
+        Story.of(lacks + ": it lacks the very first one").does("type 0 a; name 0; type 1 x").refuses(Story.STATE, "bringBack 1 0").says("bringBack 0 0", 0);
         Story.of(lacks + ": it has all but one").does("write 0 ab; send 0 1; type 0 c; name 0; deliver 0").refuses(Story.STATE, "bringBack 1 0")
             .does("pass 0 1").says("bringBack 1 0", 0);
         Story.of(lacks + ": it lost one").does("write 0 abc; name 0; erase 0; pass 0 1; crash 0 2").refuses(Story.STATE, "bringBack 0 0").says("bringBack 1 0", 1);

@@ -76,7 +76,7 @@ final class Story {
         return this;
     }
 
-    /** The seen elements' letters; a minus sign behind one tells that it is proposed to be removed, a plus that it is PROPOSED. */
+    /** The seen elements' letters; a plus behind one tells that it is PROPOSED, a minus that it is proposed to be removed. */
     Story reads(int site, String want) {
         StringBuilder text = new StringBuilder();
         int length = (Integer) ask("length " + site);
@@ -115,7 +115,11 @@ final class Story {
     }
 
     private void due(String what, Object want, Object got) {
-        Check.due(sentence + ": " + what + " is " + want, sentence + ": " + what + " is " + got);
+        if (want.equals(got)) {
+            Check.due(true, true);
+        } else {
+            Check.fail(sentence + ": " + what + " is " + got + ", due is " + want);
+        }
     }
 
     // ---- calls by their words

@@ -137,6 +137,9 @@ public final class TermEdgesTest {
         Story.of("the level is as the last act ALLOW for both tells").does("write 0 a/b; allow 1 1 READ; allow 1 1 SUGGEST; allow 1 2 READ; allow 0 1 READ; pass 0 1; pass 0 2; pass 0 3")
             .says("level 1 1", 1).says("level 1 0", 2).says("level 2 1", 2).says("level 2 0", 0).says("level 3 0", 0).says("level 3 1", 0)
             .does("allow 1 1 WRITE; pass 0 1").says("level 1 1", 0);
+        Story.of("the level is as the last act ALLOW tells: one that is lost tells nothing").does("write 0 a; pass 0 1; allow 0 1 READ; pass 0 1").says("level 1 0", 2).does("crash 1 1").says("level 1 0", 0).says("type 1 x", 2);
+        Story.of("the level is as the last act ALLOW tells that is done so far: what comes ahead of it in order is done with WRITE").does("write 0 a; pass 0 1; setKind 0 0 1; allow 0 1 READ; type 1 x; pass 0 1").reads(1, "xa")
+            .does("undo 0; pass 0 1").reads(1, "xa").says("level 1 0", 2);
         Story.of("the level is as the last act ALLOW tells that is done so far").does("write 0 a; pass 0 1; allow 0 1 READ; moveTo 1 1; type 1 x; type 1 y; allow 0 1 WRITE; type 1 z; pass 0 1")
             .reads(1, "ayz").says("graves 1", 1).says("level 1 0", 0);
         Story.of("site 0 has WRITE everywhere").does("propose 0 on; write 0 a/b").says("level 0 0", 0).refuses(Story.BOUNDS, "allow 0 0 READ")
