@@ -1040,8 +1040,9 @@ public final class Marginnote {
             if (element == proposal) {
                 states[element] = accepts ? PLAIN : VOID;
             } else {
+                // What is open is seen, so a refusal leaves its element as it is: not removed.
                 asked[proposal] = false;
-                removed[element] = removed[element] || accepts;
+                removed[element] = accepts;
             }
         }
 

@@ -127,6 +127,10 @@ public final class LimitsTest {
         // The last one is not mixed up with marks, nor with the first one.
         Story.of(sentence + "the last one covers what it covers").does(room + "times 4 comment 0; select 0 1 2").says("comment 0", 21)
             .says("covered 0 21", 1).says("covered 0 20", 2).says("covered 0 2", 2).marks(0, "BOLD", "..").marks(0, "LINK", "..");
+        Story.of(sentence + "the last one covers a new element, too").does(room + "times 4 comment 0; comment 0; moveTo 0 1; type 0 x").reads(0, "axb").says("covered 0 21", 3).says("covered 0 2", 3);
+        Story.of(sentence + "whatever the numbers of their acts").does("write 0 ab; select 0 0 1; comment 0; times 31 setKind 0 0 1; select 0 1 2").says("comment 0", 34).says("covered 0 2", 1).says("covered 0 34", 1);
+        Story.of(sentence + "whatever the numbers of their acts, they are no marks").does("write 0 ab; extend 0 0; times 27 setKind 0 0 1; times 4 comment 0; times 28 setKind 0 0 1; times 4 comment 0")
+            .says("act 61", 62007).marks(0, "BOLD", "..").marks(0, "LINK", "..");
     }
 
     private static void versions() {

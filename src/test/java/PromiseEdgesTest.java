@@ -237,6 +237,7 @@ public final class PromiseEdgesTest {
         }
         Story.of(sentence + ": one has the letter, but not that it is removed").does("write 0 ab; pass 0 3; erase 0; " + ROUND.replace("pass 0 3; ", "")).says("graves 0", 1).says("buried 0", 0);
         Story.of(sentence + ": what is VOID").does("write 0 ab; undo 0; " + ROUND).says("graves 0", 1).says("buried 0", 1);
+        Story.of(sentence + ": what is VOID by a REFUSE").does("propose 0 on; write 0 ab; decide 0 1 no; " + ROUND).says("graves 0", 1).says("buried 0", 1);
         Story.of(sentence + ": what is PROPOSED is seen").does("propose 0 on; write 0 ab; " + ROUND).says("buried 0", 0).says("graves 0", 0);
         Story.of(sentence + ": what is PROPOSED and removed").does("propose 0 on; write 0 ab; erase 0; " + ROUND).says("buried 0", 1).says("graves 0", 1);
         Story.of(sentence + ": it is none in the site's document any more").does(room + ROUND + "undo 0").says("graves 0", 0).says("buried 0", 0).does("redo 0").says("buried 0", 1);
